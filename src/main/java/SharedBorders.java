@@ -464,10 +464,8 @@ public final class SharedBorders {
         void clear() {
             points = 0;
             rings = 0;
-            edges = 0;
             for (int p = 0; p < POINT_ROOM; p++) {
                 pins[p] = false;
-                degrees[p] = 0;
             }
         }
 

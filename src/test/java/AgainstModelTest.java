@@ -27,10 +27,10 @@ public final class AgainstModelTest {
             new AgainstModelTest(checks, 7_000L + run).run(seen);
         }
         // Runs in which nothing is told, or nothing goes, would prove little.
-        checks.isTrue("texts were taken", seen[0] > runs / 2);
-        checks.isTrue("texts were refused", seen[1] > runs / 2);
-        checks.isTrue("there were stages", seen[2] > runs / 2);
-        checks.isTrue("points were moved", seen[3] > runs / 2);
+        checks.isTrue("texts were taken", seen[0] > runs / 4);
+        checks.isTrue("texts were refused", seen[1] > runs / 4);
+        checks.isTrue("there were stages", seen[2] > runs / 4);
+        checks.isTrue("points were moved", seen[3] > runs / 4);
         checks.finish();
     }
 

@@ -124,6 +124,7 @@ public final class ImagesSheetsTest {
         T.due("point(3, 1)", x.point(3, 1), 9);
         T.due("point(0, 0)", x.point(0, 0), 2);
         T.due("size(3, 0)", x.size(3, 0), 364);
+        T.due("the stages follow", x.point(3, 6), 364);
         T.due("torn()", x.torn(), 0);
         T.due("read(2, 1, 0, 0)", x.read(2, 1, 0, 0), 0);
         for (int i = 0; i < 13; i++) {
@@ -148,7 +149,7 @@ public final class ImagesSheetsTest {
         T.due("read up to the end of the row", x.read(1, 1, 0, 3), 2);
         T.due("torn() INDEX", x.torn(), 2);
         T.due("point(0, 0) came", x.point(0, 0), 2);
-        T.due("size(3, 0) follows", x.size(3, 0), 364);
+        T.due("the stages follow", x.point(3, 6), 364);
         T.due("read of another lane", x.read(1, 0, 0, 1), 0);
         T.due("torn() CAST", x.torn(), 3);
         T.due("read of another lane", x.read(1, 2, -5, 1), 0);

@@ -158,6 +158,12 @@ public final class StagesTest {
             T.due("limit(" + most[i] + ")", x.limit(most[i]), due[i]);
         }
         T.due("limit(-1)", x.limit(-1), -1);
+        // One stage alone: x and y of its point are 2, of the line across they are 100 together.
+        x = T.told("point 2 2;point 100 0;point 100 100;point 0 100;ring 0 1 2 3;pin 1;pin 2;pin 3;");
+        T.due("rule(5)", x.rule(5), 1);
+        T.due("point(0, 6)", x.point(0, 6), 9600);
+        T.due("limit(9599)", x.limit(9599), 0);
+        T.due("limit(9600)", x.limit(9600), 1);
     }
 
     /** Sizes may fall: when the point 2 is gone with 400, the point 1 goes with 200, not its 500. */

@@ -12,6 +12,9 @@ public final class TextTest {
         faultsOfTooMany();
         faultsBehindAll();
         fairness();
+        hardlyCrossing();
+        toldAnew();
+        allRoomTaken();
         T.finish();
     }
 
@@ -91,6 +94,14 @@ public final class TextTest {
     }
 
     private static void faultsOfTokens() {
+        int[] none = {0, 9, 10, 31, '/', ':', '`', '{', 127};
+        for (int c : none) {
+            T.refused("" + (char) c, 1, 0);
+        }
+        T.refused("a", 2, 0);
+        T.refused("z", 2, 0);
+        T.refused("0", 2, 0);
+        T.refused("9", 2, 0);
         T.refused("A", 1, 0);
         T.refused("  \n", 1, 2);
         T.refused("point 1,2;", 1, 7);
@@ -164,6 +175,12 @@ public final class TextTest {
         T.refused("pin 3;", 6, 6);
         T.refused("point 1 1;pin 1; ", 6, 17);
         T.refused("ring 0 1 2;", 6, 11);
+        // What an earlier text told is not there any more.
+        SharedBorders x = T.told("point 0 0;point 9 0;point 0 9;point 9 9;ring 0 1 3 2;");
+        T.due("text() of a ring alone", Checks.tell(x, "ring 0 1 3;"), -21);
+        T.due("text() of a ring and two points", Checks.tell(x, "point 0 0;point 9 0;ring 0 1 2;"), -41);
+        T.due("text() of a ring, its first point missing", Checks.tell(x, "point 0 0;point 9 0;ring 2 0 1;"), -41);
+        T.due("text() of two rings", Checks.tell(x, "point 0 0;point 9 0;point 0 9;ring 0 1 2;ring 3 1 2;"), -62);
         T.refused("point 0 0;point 9 0;ring 0 1 2;", 6, 31);
     }
 
@@ -187,6 +204,116 @@ public final class TextTest {
         notFair(Samples.TWO_OVER_AN_EDGE + "ring 0 1 4;");
         T.told(triangle + "ring 0 1 2;ring 2 1 0;");
         notFair(triangle + "ring 0 1 2;ring 2 1 0;ring 1 2 0;");
+    }
+
+    /** Edges from one point, one of which ends just across another edge: no two others meet. */
+    private static void hardlyCrossing() {
+        String across = "point 50 50;point 50 60;point 61 50;point 60 51;point 80 40;";
+        String inside = "point 50 50;point 50 60;point 61 50;point 51 59;point 52 52;";
+        String[] first = {"ring 0 1 2;", "ring 2 1 0;"};
+        String[] second = {"ring 0 3 4;", "ring 4 3 0;"};
+        for (String a : first) {
+            for (String b : second) {
+                notFair(across + a + b);
+                notFair(across + b + a);
+                T.told(inside + a + b);
+                T.told(inside + b + a);
+            }
+        }
+    }
+
+    /** An object that has been told much, and then little, answers as one that was told little alone. */
+    private static void toldAnew() {
+        String[] little = {"point 15 30;", "point 10 10;point 40 60;point 10 60;ring 0 1 2;",
+            "point 12 10;point 40 12;point 39 60;point 11 59;ring 3 0 1 2;pin 1;"};
+        for (String text : little) {
+            SharedBorders fresh = T.told(text);
+            SharedBorders x = T.told(Samples.TWO_LANDS + "pin 0;pin 1;pin 9;");
+            T.isTrue("text is taken", Checks.tell(x, text) > 0);
+            sameAnswers(x, fresh);
+            sameMoves(x, fresh);
+        }
+    }
+
+    private static void sameAnswers(SharedBorders x, SharedBorders y) {
+        for (int i = 0; i < 8; i++) {
+            T.due("rule(" + i + ")", x.rule(i), y.rule(i));
+            for (int p = 0; p < 5; p++) {
+                T.due("point(" + p + ", " + i + ")", x.point(p, i), y.point(p, i));
+            }
+        }
+        for (int r = 0; r < 3; r++) {
+            for (int i = 0; i < 5; i++) {
+                T.due("ring(" + r + ", 0, " + i + ")", x.ring(r, 0, i), y.ring(r, 0, i));
+                T.due("corner(" + r + ", 0, " + i + ")", x.corner(r, 0, i), y.corner(r, 0, i));
+                T.due("arc(" + r + ", " + i + ")", x.arc(r, i), y.arc(r, i));
+                T.due("along(" + r + ", " + i + ", 0)", x.along(r, i, 0), y.along(r, i, 0));
+            }
+            T.due("along(" + r + ", 1, 1)", x.along(r, 1, 1), y.along(r, 1, 1));
+            T.due("gone(" + r + ")", x.gone(r), y.gone(r));
+        }
+        for (int p = 0; p < 5; p++) {
+            for (int q = 0; q < 5; q++) {
+                T.due("edge(" + p + ", " + q + ", 0)", x.edge(p, q, 0), y.edge(p, q, 0));
+            }
+            T.due("why(" + p + ", 0)", x.why(p, 0), y.why(p, 0));
+        }
+        for (int px = 5; px < 80; px += 15) {
+            T.due("within(" + px + ", 25, 0)", x.within(px, 25, 0), y.within(px, 25, 0));
+            T.due("within(" + px + ", 60, 0)", x.within(px, 60, 0), y.within(px, 60, 0));
+        }
+    }
+
+    private static void sameMoves(SharedBorders x, SharedBorders y) {
+        int[] places = {70, 60, 70, 10, 55, 10, 10, 30, 55, 60, 70, 35, 40, 10};
+        for (int i = 0; i < places.length; i += 2) {
+            T.due("move to " + places[i] + " " + places[i + 1],
+                x.move(0, places[i], places[i + 1]), y.move(0, places[i], places[i + 1]));
+        }
+    }
+
+    /** As many points, rings as there may be: what is asked and changed then is in bounds. */
+    private static void allRoomTaken() {
+        StringBuilder text = new StringBuilder();
+        for (int k = 0; k < 6; k++) {
+            int left = k % 3 * 3;
+            int low = k / 3 * 3;
+            text.append("point").append(left).append(' ').append(low).append(';');
+            text.append("point").append(left + 2).append(' ').append(low).append(';');
+            text.append("point").append(left + 2).append(' ').append(low + 2).append(';');
+            text.append("point").append(left).append(' ').append(low + 2).append(';');
+        }
+        for (int k = 0; k < 6; k++) {
+            text.append("ring").append(4 * k).append(' ').append(4 * k + 1).append(' ');
+            text.append(4 * k + 2).append(' ').append(4 * k + 3).append(';');
+        }
+        SharedBorders x = new SharedBorders();
+        T.due("text() of 24 points, 6 rings", Checks.tell(x, text.toString()), 30);
+        int[] rules = {24, 6, 24, 0, 6, 6, 24, 0};
+        for (int what = 0; what < 8; what++) {
+            T.due("rule(" + what + ")", x.rule(what), rules[what]);
+        }
+        for (int r = 0; r < 6; r++) {
+            T.due("gone(" + (r + 1) + ")", x.gone(r + 1), 4 * r);
+            T.due("ring(" + r + ", 6, 0)", x.ring(r, 6, 0), 3);
+            T.due("ring(" + r + ", 0, 1)", x.ring(r, 0, 1), 8);
+            T.due("ring(" + r + ", 0, 2)", x.ring(r, 0, 2), 0);
+            T.due("along(" + r + ", 0, 1)", x.along(r, 0, 1), r);
+            T.due("along(" + r + ", 1, 1)", x.along(r, 1, 1), -4);
+        }
+        T.due("within(7, 4, 0)", x.within(7, 4, 0), 5);
+        T.due("within(9, 9, 0)", x.within(9, 9, 0), -4);
+        T.due("edge(23, 20, 0)", x.edge(23, 20, 0), 1);
+        T.due("why(23, 0)", x.why(23, 0), 0);
+        T.due("count(3)", x.count(3), 96);
+        T.due("count(4)", x.count(4), 60);
+        T.due("move(23, 6, 6)", x.move(23, 6, 6), 1);
+        T.due("pin(23, 1)", x.pin(23, 1), 0);
+        T.due("pin(24, 1)", x.pin(24, 1), -1);
+        T.due("store(1)", x.store(1), 0);
+        T.isTrue("shake(3, 40)", x.shake(3, 40) > 0);
+        T.due("back(1)", x.back(1), 24);
+        T.due("rule(7)", x.rule(7), 1);
     }
 
     private static void notFair(String text) {
