@@ -14,6 +14,7 @@ public final class TextTest {
         fairness();
         hardlyCrossing();
         toldAnew();
+        toldBehindARefusedOne();
         allRoomTaken();
         T.finish();
     }
@@ -233,6 +234,14 @@ public final class TextTest {
             sameAnswers(x, fresh);
             sameMoves(x, fresh);
         }
+    }
+
+    /** A refused text had the edge 1 3 in three rings; the next one has no such edge. */
+    private static void toldBehindARefusedOne() {
+        SharedBorders x = new SharedBorders();
+        T.isTrue("text is refused", Checks.tell(x, "point 0 0;point 9 0;point 0 9;point 9 9;point 8 5;point 12 5;"
+            + "ring 0 1 2;ring 0 1 3;ring 1 3 4;ring 1 3 5;") < 0);
+        T.due("text()", Checks.tell(x, "point 0 0;point 9 0;point 0 9;ring 0 1 2;"), 4);
     }
 
     private static void sameAnswers(SharedBorders x, SharedBorders y) {
