@@ -475,7 +475,9 @@ public final class SharedBorders {
             edges = other.edges;
             System.arraycopy(other.xs, 0, xs, 0, POINT_ROOM);
             System.arraycopy(other.ys, 0, ys, 0, POINT_ROOM);
-            System.arraycopy(other.pins, 0, pins, 0, POINT_ROOM);
+            for (int p = 0; p < POINT_ROOM; p++) {
+                pins[p] = other.pins[p];
+            }
             System.arraycopy(other.degrees, 0, degrees, 0, POINT_ROOM);
             System.arraycopy(other.lengths, 0, lengths, 0, RING_ROOM);
             for (int r = 0; r < RING_ROOM; r++) {
