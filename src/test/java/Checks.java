@@ -39,6 +39,15 @@ final class Checks {
         return x;
     }
 
+    /** A text that must be taken, with so many lines. */
+    SharedBorders taken(String text, int lines) {
+        SharedBorders x = new SharedBorders();
+        due("text() of '" + text + "'", tell(x, text), lines);
+        due("fault() of '" + text + "'", x.fault(), 0);
+        due("bytes behind '" + text + "'", x.count(1), 0);
+        return x;
+    }
+
     /** A text that must be refused with this fault at this place, and must change nothing. */
     void refused(String text, int fault, int place) {
         SharedBorders x = told("point 7 9;");

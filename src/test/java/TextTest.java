@@ -151,12 +151,9 @@ public final class TextTest {
     }
 
     private static void faultsOfTooMany() {
-        StringBuilder points = new StringBuilder();
-        for (int i = 0; i < 24; i++) {
-            points.append("point0 ").append(i).append(';');
-        }
+        String points = Samples.column(24);
         SharedBorders x = new SharedBorders();
-        T.due("text() of 24 points", Checks.tell(x, points.toString()), 24);
+        T.due("text() of 24 points", Checks.tell(x, points), 24);
         T.refused(points + "point$", 5, points.length());
         T.refused(points + "points", 2, points.length());
         String six = "ring0 1 2;".repeat(6);
@@ -283,21 +280,8 @@ public final class TextTest {
 
     /** As many points, rings as there may be: what is asked and changed then is in bounds. */
     private static void allRoomTaken() {
-        StringBuilder text = new StringBuilder();
-        for (int k = 0; k < 6; k++) {
-            int left = k % 3 * 3;
-            int low = k / 3 * 3;
-            text.append("point").append(left).append(' ').append(low).append(';');
-            text.append("point").append(left + 2).append(' ').append(low).append(';');
-            text.append("point").append(left + 2).append(' ').append(low + 2).append(';');
-            text.append("point").append(left).append(' ').append(low + 2).append(';');
-        }
-        for (int k = 0; k < 6; k++) {
-            text.append("ring").append(4 * k).append(' ').append(4 * k + 1).append(' ');
-            text.append(4 * k + 2).append(' ').append(4 * k + 3).append(';');
-        }
         SharedBorders x = new SharedBorders();
-        T.due("text() of 24 points, 6 rings", Checks.tell(x, text.toString()), 30);
+        T.due("text() of 24 points, 6 rings", Checks.tell(x, Samples.sixSquares()), 30);
         int[] rules = {24, 6, 24, 0, 6, 6, 24, 0};
         for (int what = 0; what < 8; what++) {
             T.due("rule(" + what + ")", x.rule(what), rules[what]);
