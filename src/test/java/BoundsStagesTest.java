@@ -339,17 +339,22 @@ public final class BoundsStagesTest {
         for (String ring : RINGS) {
             picture(SLANTED + ring, 0, "........", ".x......", "..###x..", "..###...", "..##....", "..x.....", "......x.", "........");
             picture(SLANTED + ring, 2, "........", ".x......", ".....x..", "....##..", "...###..", "..x###..", "......x.", "........");
+            // Its far side has no places on it: 4 3 lies just in it, 3 5 just not.
+            picture("point 1 1;point 5 2;point 6 7;point 2 6;point 99 99;" + ring, 0,
+                "........", ".x......", "..###x..", "..###...", "..##....", "..#.....", "..x.....", "......x.");
         }
     }
 
     /** A flat triangle is its line, which is all EDGES: none lies in it, nor do those beyond its ends. */
     private static void reason4OfAFlatTriangle() {
         String[] upright = {"........", "...x....", "...x....", "...x..x.", "...x....", "...x....", "........", "........"};
+        String[] farRight = {"........", ".......x", ".......x", "....x..x", ".......x", ".......x", "........", "........"};
         String[] level = {"........", "........", "........", ".xxxxx..", "........", "........", "...x....", "........"};
         String[] rising = {"........", ".x......", ".xx.....", ".x.x....", ".x..x...", ".xxxxx..", "........", "........"};
         String[] falling = {"........", ".....x..", "....xx..", "...x.x..", "..x..x..", ".xxxxx..", "........", "........"};
         for (String ring : RINGS) {
             picture("point 3 1;point 3 3;point 3 5;point 6 3;point 99 99;" + ring, 1, upright);
+            picture("point 7 1;point 7 3;point 7 5;point 4 3;point 99 99;" + ring, 1, farRight);
             picture("point 1 3;point 3 3;point 5 3;point 3 6;point 99 99;" + ring, 1, level);
             picture("point 1 1;point 3 3;point 5 5;point 1 5;point 99 99;" + ring, 1, rising);
             picture("point 5 1;point 3 3;point 1 5;point 5 5;point 99 99;" + ring, 1, falling);
