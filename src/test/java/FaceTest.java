@@ -31,7 +31,9 @@ public final class FaceTest {
         T.isTrue("public and final", Modifier.isPublic(c.getModifiers()) && Modifier.isFinal(c.getModifiers()));
         Set<String> found = new TreeSet<>();
         for (Method m : c.getDeclaredMethods()) {
-            if (!Modifier.isPrivate(m.getModifiers())) {
+            if (Modifier.isPrivate(m.getModifiers())) {
+                T.isTrue(m + " bears no public name", !(" " + FACE).contains(" " + m.getName() + "/"));
+            } else {
                 T.isTrue(m + " is public, no more, and answers an int",
                     m.getModifiers() == Modifier.PUBLIC && m.getReturnType() == int.class);
                 found.add(m.getName() + "/" + m.getParameterCount());
@@ -84,6 +86,16 @@ public final class FaceTest {
         }
         T.isTrue("no lambda, no method reference", !code.contains("->") && !code.contains("::"));
         T.isTrue("signs 1 to 127 alone", text.chars().allMatch(c -> c < 128));
+        String[] lines = code.split("\n");
+        int opened = 0;
+        for (int i = 0; i < lines.length; i++) {
+            if (lines[i].matches(" {4}(?: {4})?[a-zA-Z][\\w\\[\\] ]*\\([\\w\\[\\], ]*\\) \\{")) {
+                opened = i;
+            }
+            if (lines[i].matches(" {4}(?: {4})?\\}")) {
+                T.isTrue("short: " + lines[opened].trim(), i - opened <= 60);
+            }
+        }
         // What is made is made with the object itself: calls make nothing.
         Matcher made = Pattern.compile("[^\n]*\\bnew\\b[^\n]*").matcher(code);
         while (made.find()) {
